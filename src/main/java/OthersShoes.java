@@ -632,7 +632,9 @@ public final class OthersShoes {
         }
 
         boolean failHere() {
-            return fail(WRONG_BYTE, first);
+            fault = WRONG_BYTE;
+            faultAt = first;
+            return false;
         }
 
         boolean isSign(char sign) {
@@ -856,7 +858,9 @@ public final class OthersShoes {
             this.tape = tape;
         }
 
+        /** The SUM behind the word that stands here. */
         boolean readSum(Formula into) {
+            tape.advance();
             begin(into, false);
             return read(SUM_LEVEL, 0);
         }
@@ -906,10 +910,11 @@ public final class OthersShoes {
             return tape.isWord("least") ? LEAST_OF_ALL : NONE;
         }
 
-        private void write(int it) {
+        private boolean write(int it) {
             if (code != null) {
                 code.add(it);
             }
+            return true;
         }
 
         private boolean read(int level, int open) {
@@ -951,15 +956,14 @@ public final class OthersShoes {
 
         private boolean readFact(int open) {
             if (tape.isWord("not")) {
-                return opens(open) && read(FACT_LEVEL, open + 1) && closes(NOT);
+                return opens(open) && read(FACT_LEVEL, open + 1) && write(NOT);
             }
             if (tape.isSign('[')) {
                 return opens(open) && read(OR_LEVEL, open + 1) && tape.takeSign(']');
             }
             if (tape.isWord("all")) {
                 tape.advance();
-                write(1);
-                return true;
+                return write(1);
             }
             return readComparison(open);
         }
@@ -973,13 +977,13 @@ public final class OthersShoes {
                 return tape.failHere();
             }
             tape.advance();
-            return read(SUM_LEVEL, open) && closes(act);
+            return read(SUM_LEVEL, open) && write(act);
         }
 
         private boolean readPart(int open) {
             if (tape.kind == Tape.NUMBER) {
                 int value = tape.takeNumber(0, MOST_NUMBER);
-                return value != NONE && closes(value);
+                return value != NONE && write(value);
             }
             if (tape.isSign('(')) {
                 return opens(open) && read(SUM_LEVEL, open + 1) && tape.takeSign(')');
@@ -991,14 +995,17 @@ public final class OthersShoes {
                 return readChoice(GREATEST, open);
             }
             if (asking && tape.isWord("far")) {
-                return opens(open) && read(PART_LEVEL, open + 1) && closes(FAR);
+                return opens(open) && read(PART_LEVEL, open + 1) && write(FAR);
             }
             int fact = namedFact();
+            if (fact == NONE && asking) {
+                fact = askedFact();
+            }
             if (fact == NONE) {
                 return tape.failHere();
             }
             tape.advance();
-            return closes(FACT_CODES + fact);
+            return write(FACT_CODES + fact);
         }
 
         private boolean readChoice(int act, int open) {
@@ -1007,7 +1014,7 @@ public final class OthersShoes {
                 return tape.failHere();
             }
             return opens(open) && read(SUM_LEVEL, open + 1) && tape.takeSign(',')
-                && read(SUM_LEVEL, open + 1) && tape.takeSign(')') && closes(act);
+                && read(SUM_LEVEL, open + 1) && tape.takeSign(')') && write(act);
         }
 
         private boolean opens(int open) {
@@ -1015,11 +1022,6 @@ public final class OthersShoes {
                 return tape.fail(TOO_DEEP, tape.first);
             }
             tape.advance();
-            return true;
-        }
-
-        private boolean closes(int it) {
-            write(it);
             return true;
         }
 
@@ -1036,10 +1038,7 @@ public final class OthersShoes {
             if (tape.isWord("will")) {
                 return WILL_FACT;
             }
-            if (tape.isWord("day")) {
-                return DAY_FACT;
-            }
-            return asking ? askedFact() : NONE;
+            return tape.isWord("day") ? DAY_FACT : NONE;
         }
 
         private int askedFact() {
@@ -1216,10 +1215,10 @@ public final class OthersShoes {
                 return land.walkers.isFull() ? tooMany() : readWalker(land);
             }
             if (tape.isWord("pull")) {
-                return readFormula(land.pull);
+                return land.pull.size > 0 ? tooMany() : grammar.readSum(land.pull);
             }
             if (tape.isWord("strive")) {
-                return readFormula(land.strive);
+                return land.strive.size > 0 ? tooMany() : grammar.readSum(land.strive);
             }
             return readSetting(land);
         }
@@ -1317,15 +1316,6 @@ public final class OthersShoes {
             land.walkerGoal[walker] = goal;
             land.walkerPair[walker] = pair;
             return true;
-        }
-
-        // A formula of some size has been told already.
-        private boolean readFormula(Formula formula) {
-            if (formula.size > 0) {
-                return tooMany();
-            }
-            tape.advance();
-            return grammar.readSum(formula);
         }
 
         private boolean readSetting(Land land) {
