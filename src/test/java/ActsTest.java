@@ -10,6 +10,7 @@ public final class ActsTest {
     public static void main(String[] args) {
         crossing();
         givingBack();
+        givingBackOnAShelfOfOne();
         givingBackOnAnEmptyShelf();
         otherLaws();
         daysPass();
@@ -68,6 +69,14 @@ public final class ActsTest {
         Checks.due("acts", x.has(10), 3);
         Checks.due("crosses anew in p", x.cross(0), 0);
         shelf("leaves q", x, 2, 1);
+    }
+
+    private static void givingBackOnAShelfOfOne() {
+        OthersShoes x = Checks.in("place a;pair p size 1 pulls a by 1;pair q size 1 pulls a by 1;"
+            + "walker w size 1 will 1 to a in p;");
+        Checks.due("gets q", x.cross(0), 1);
+        Checks.due("is in p again", x.back(0), 0);
+        shelf("q", x, 1);
     }
 
     private static void givingBackOnAnEmptyShelf() {
@@ -254,7 +263,7 @@ public final class ActsTest {
         Checks.due("99", x.chance(1), 0);
         x.seed(1);
         Checks.due("18", x.chance(1), 1);
-        x.seed(0);
+        Checks.due("seed 0", x.seed(0), true);
         // 12345 / 64 is 192.
         Checks.due("92", x.chance(1), 0);
         // (1103515245 (2^31 - 1) + 12345) mod 2^31 is 1043980748, its 64th part 16312199.

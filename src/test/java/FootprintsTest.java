@@ -93,6 +93,11 @@ public final class FootprintsTest {
             + "pair q size 1 pulls a by 0;pair r size 1 pulls a by 0;walker w size 1 will 0 to c in p;pull habit;");
         // In q: b (no pull at a), then c, as 0 is not above 0; so in r; in p to and fro.
         tells("later legs tell", y, 2, 2);
+        OthersShoes z = Checks.in("place z;place a;place b;place c;road z a miles 1;road a b miles 1;road a c miles 1;"
+            + "pair p size 10 pulls c by 5;pair q size 11 pulls c by 5;walker w size 10 will 3 to b in p;"
+            + "pull 99-99*tight*(walked/29);");
+        // To and fro between a and c in both, until in q the pull fails at a behind leg 29.
+        tells("the last leg tells", z, 30, 1);
     }
 
     private static void seenStays() {

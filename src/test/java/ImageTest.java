@@ -51,6 +51,11 @@ public final class ImageTest {
         x.days(100);
         x.law(1);
         image("day 301", x, 1, 45, 1, 6, 9, 0, 2, 2, 3, 0, 2, 0, 0, 0, 0, 3, 1);
+        OthersShoes z = new OthersShoes();
+        z.days(100);
+        z.days(100);
+        z.days(56);
+        image("day 256", z, 1, 0, 0);
         OthersShoes y = Checks.in("place a;place b;pair p size 1 pulls a by 7;pair o size 1 pulls a by 0;"
             + "walker w size 1 will 9 to b in o;legs 9;");
         y.cross(0);

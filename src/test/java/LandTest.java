@@ -40,7 +40,7 @@ public final class LandTest {
         counted("pull 1+2-3*4/(5)-min(6,7)+max(habit,tight)-walked+will*day;", 1);
         counted("strive((((((habit))))));pull min(max(min(max(min(max(1,2),3),4),5),6),7);", 2);
         counted("place first;place often;place total;place most;place least;place last;", 6);
-        counted("law 0;law 1;law 02;legs 9;rain 0100;", 5);
+        counted("law 0;law 1;law 02;legs 9;rain 0100;rain 0;", 6);
         counted("law 0;".repeat(80), 80);
     }
 
@@ -71,6 +71,12 @@ public final class LandTest {
         faulty("place^1;", 1);
         faulty("place ^1;", 1);
         faulty("place ^to;", 1);
+        faulty("place ^place;", 1);
+        faulty("place ^law;", 1);
+        faulty("place a^{;", 1);
+        faulty("place a^`;", 1);
+        faulty("law 1^:;", 1);
+        faulty("law ^/;", 1);
         faulty("place ^number;", 1);
         faulty("place ^max;", 1);
         faulty("place ^A;", 1);
@@ -165,6 +171,8 @@ public final class LandTest {
         faulty("strive min(1,(((((max^(1,2)))))));", 4);
         faulty("pull ((((((1))))))+((((((^(1)))))));", 4);
         faulty("pull ((((((max ^1))))));", 1);
+        faulty("pull min((((((^(1;", 4);
+        faulty("pull min(1,(((((^(1;", 4);
     }
 
     private static void faultsOfMany() {
@@ -236,7 +244,36 @@ public final class LandTest {
         Checks.due("where", x.walker(0, 4), -1);
         Checks.due("undo", x.undo(), false);
         Checks.due("refusals stay counted", x.status(2), 1);
+        nothingIsLeftOfFormerTexts(x);
         seedStaysBehindALand();
+    }
+
+    private static void nothingIsLeftOfFormerTexts(OthersShoes x) {
+        String full = SMALL + "pull 50;strive 3;legs 9;rain 100;law 2;";
+        for (int k = 0; k < 2; k++) {
+            Checks.due("full", Checks.land(x, full), 12);
+            Checks.due("cross", x.cross(0), 1);
+            Checks.due("he walks", x.days(1), 1);
+            Checks.due("spoilt behind all of it", Checks.land(x, full.replace("law 2;", "law 3;")), -1);
+        }
+        for (int k = 0; k < 2; k++) {
+            Checks.due("places alone", Checks.land(x, "place a;place b;"), 2);
+            int[] bare = {2, 0, 0, 0, 0, 0, 0, 0, 0, 0, 0};
+            for (int what = 0; what <= 10; what++) {
+                Checks.due("places alone has(" + what + ")", x.has(what), bare[what]);
+            }
+            Checks.due("no way", x.miles(0, 1), -1);
+        }
+        String fork = "place a;place b;place c;place d;place e;road a b miles 1;road b d miles 1;road d e miles 1;"
+            + "road a c miles 1;pair p size 10 pulls c by 4;pair q size 12 pulls c by 2;"
+            + "walker w size 11 will 2 to e in p;law 2;";
+        Checks.due("as without pull and strive", Checks.land(x, fork), 13);
+        Checks.due("no leg", x.walker(0, 5), 0);
+        Checks.due("by the will", x.tries(0, 1), 3);
+        Checks.due("by the pull", x.tries(0, 0), -1);
+        x.cross(0);
+        Checks.due("no rain", x.chance(1), 0);
+        Checks.due("three legs", x.walker(0, 5), 3);
     }
 
     private static void seedStaysBehindALand() {
@@ -313,6 +350,13 @@ public final class LandTest {
         Checks.due("miles from 6 to 6", x.miles(6, 6), -1);
         Checks.due("next to -1", x.next(0, -1), -1);
         Checks.due("next from 6", x.next(6, 0), -1);
+        OthersShoes y = Checks.in("place a;place b;place c;place d;place e;place f;place g;road a b miles 1;"
+            + "road g b miles 1;");
+        Checks.due("miles to the seventh", y.miles(0, 6), 2);
+        Checks.due("miles to 7", y.miles(0, 7), -1);
+        Checks.due("miles from 7", y.miles(7, 0), -1);
+        Checks.due("next to 7", y.next(0, 7), -1);
+        Checks.due("next from 7", y.next(7, 0), -1);
     }
 
     private static void waysGoByLeastNumbers() {

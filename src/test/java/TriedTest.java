@@ -236,6 +236,9 @@ public final class TriedTest {
         x.cross(0);
         Checks.due("v alone, law 1", x.lawed(1), 1);
         Checks.due("v alone, law 0: p", x.lawed(0), 0);
+        OthersShoes one = Checks.in(ROADS + "pair p size 1 pulls b by 1;pair q size 1 pulls b by 1;"
+            + "walker w size 1 will 1 to b in p;");
+        Checks.due("a shelf of one", one.lawed(0), 1);
         OthersShoes y = Checks.in("place a;pair p size 1 pulls a by 1;walker w size 1 will 1 to a in p;");
         Checks.due("an empty shelf", y.lawed(0), 0);
         Checks.due("a deal of an empty shelf", y.deal(-1), 0);
