@@ -18,6 +18,7 @@ public final class QuestionTest {
         limits();
         tests();
         binding();
+        longAndDeep();
         faultsOfBytes();
         faultsOfDepth();
         faultsAreTold();
@@ -155,6 +156,16 @@ public final class QuestionTest {
         due("often number = 0 or number = 1 and will = 3", 2);
         due("often not number = 0 and not number = 1", 1);
         due("often number=0 and all or number=2", 2);
+    }
+
+    private static void longAndDeep() {
+        x = Checks.in(LAND);
+        String ones = "1+".repeat(790);
+        due("most " + ones + "1", 791);
+        due("most " + ones + "2", 792);
+        due("first all or not all and 5 < " + "0+1*max(9,0+1*min(8,".repeat(3) + "number" + "))".repeat(3), 0);
+        due("last not all or all and number = " + "0+1*min(2,0+1*max(0,".repeat(3) + "number" + "))".repeat(3), 2);
+        due("last " + "not all or all and [".repeat(6) + "number=1" + "]".repeat(6), 1);
     }
 
     /** The fault is due where the sign ^ stands, which is no part of the text. */
