@@ -4,6 +4,7 @@ import java.nio.charset.StandardCharsets;
 final class Checks {
     private static int wrong = 0;
     private static int asked = 0;
+    private static String words = "";
 
     private Checks() {
     }
@@ -12,8 +13,13 @@ final class Checks {
         asked++;
         if (got != want) {
             wrong++;
-            System.out.println(call + " answered " + got + ", due is " + want);
+            System.out.println(call + " answered " + got + ", due is " + want + words);
         }
+    }
+
+    /** The document's words that the next answers are due by. */
+    static void under(String said) {
+        words = ", as it says: " + said;
     }
 
     static void due(String call, boolean got, boolean want) {
