@@ -103,7 +103,7 @@ public final class TapeEdgesTest {
         Checks.due("feed of 1600", x.feed(0, 0, 0, 0, 0), 1600);
         Checks.due("refused", x.status(0), 2);
         OthersShoes y = new OthersShoes();
-        Checks.due("a text of 1600 bytes", Checks.land(y, "place abcdef;".repeat(1) + " ".repeat(1586) + ";"), -1);
+        Checks.due("a text of 1600 bytes", Checks.land(y, "place abcdef;" + " ".repeat(1586) + ";"), -1);
         Checks.due("read to its last byte", y.fault(1), 1599);
     }
 

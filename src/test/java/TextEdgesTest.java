@@ -392,7 +392,7 @@ public final class TextEdgesTest {
     private static void blanks() {
         Edges.says("Blanks (10, 32) are where one likes");
         Edges.sound("\n place \n a \n ; \n", 1);
-        Edges.sound(" place  a ;road".replace("road", "\n"), 1);
+        Edges.sound(" place  a ;\n", 1);
         Edges.sound("place a;place b;\nroad\na\nb\nmiles\n1\n;\n", 3);
         Edges.sound("pull ( 1 + 2 ) * min ( 3 , 4 ) / max ( 5 , 6 ) - 7 ;", 1);
         Edges.sound("pull(1+2)*min(3,4)/max(5,6)-7;", 1);
