@@ -52,7 +52,8 @@ public final class RulesTest {
         Checks.due("the face is the document's", open.equals(new TreeSet<>(Arrays.asList(FACE.split(" ")))), true);
         for (Class<?> c : allClasses()) {
             for (Method m : c.getDeclaredMethods()) {
-                ban("the name of a public one: " + m, Modifier.isPrivate(m.getModifiers()) && names.contains(m.getName()));
+                boolean inside = c != it || Modifier.isPrivate(m.getModifiers());
+                ban("the name of a public one: " + m, inside && names.contains(m.getName()));
                 ban("of its own: " + m, Set.of("equals", "hashCode", "toString").contains(m.getName()));
             }
         }
