@@ -15,6 +15,7 @@ public final class TapeEdgesTest {
         landCounts();
         landRefused();
         landAnew();
+        landsInTurn();
         tapeGoes();
         seedStays();
         faultAsked();
@@ -208,6 +209,37 @@ public final class TapeEdgesTest {
         z.cross(0);
         Checks.due("rain 0 without", z.chance(1), 0);
         Checks.due("three legs without", z.walker(0, 5), 3);
+    }
+
+    /** What a land told is gone in the next one, in the one behind that, and whatever spoilt text came between them. */
+    private static void landsInTurn() {
+        Edges.says("Without one all is as at first,");
+        String great = "pull 0;strive 1;legs 9;rain 100;law 2;" + Edges.places(7) + "road a g miles 1;road a f miles 9;"
+            + Edges.pairs(8) + Edges.walkers(6);
+        OthersShoes x = Checks.in(great);
+        for (int n = 0; n < 4; n++) {
+            Checks.due("a spoilt one", Checks.land(x, n % 2 == 0 ? great + "law" : "rain 100;legs 9;pull 1;?"), -1);
+            Checks.due("a small one", Checks.land(x, Edges.FORK), 8);
+            has(x, 3, 2, 2, 1, 0, 0, 1, 0, 0, 0, 0);
+            Checks.due("no road of the great one", x.miles(0, 6), -1);
+            Checks.due("pull, strive as without", x.where(0, 0, 1), 2);
+            Checks.due("nobody is there", x.days(1), 0);
+            Checks.due("nobody's habit is another one", x.pair(0, 2) * 10 + x.pair(1, 2), 50);
+            Checks.due("cross", x.cross(0), 0);
+            // The draw of 100 from this seed is 0, which is not below 0 alone.
+            x.seed(42);
+            Checks.due("rain 0 without", x.chance(1), 0);
+            Checks.due("three legs without", x.walker(0, 5), 3);
+            if (n > 1) {
+                Checks.due("a great one", Checks.land(x, great), 28);
+                for (int walker = 0; walker < 6; walker++) {
+                    x.cross(walker);
+                }
+                Checks.due("six by the seed", x.chance(1), 6);
+                Checks.due("all six were there ahead of it", x.days(1), 0);
+                has(x, 7, 2, 8, 6, 2, 2, 2, 6, 6, 0, 8);
+            }
+        }
     }
 
     private static void tapeGoes() {

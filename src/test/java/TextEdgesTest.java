@@ -1,3 +1,5 @@
+import java.util.Arrays;
+
 /** The boundaries of a LAND's text and of its FAULTS (the document's terms, I). */
 public final class TextEdgesTest {
     private static final String TWO = "place a;place b;";
@@ -33,6 +35,7 @@ public final class TextEdgesTest {
         blanksNeeded();
         wrongBytes();
         tooSoon();
+        leftOut();
         longWords();
         longNumbers();
         wrongNumbers();
@@ -458,6 +461,29 @@ public final class TextEdgesTest {
                     Edges.spoilt(text.substring(0, cut) + " \n^", 1);
                 }
             }
+        }
+    }
+
+    /** A statement that lacks one word (a name, a number), or all from it on, is spoilt at what stands there instead. */
+    private static void leftOut() {
+        Edges.says("1 the first byte with which no such text goes on");
+        String[][] told = {{"", "place", "a"}, {TWO, "road", "a", "b", "miles", "1"},
+            {TWO, "pair", "p", "size", "1", "pulls", "a", "by", "1"},
+            {PAIR, "walker", "w", "size", "1", "will", "1", "to", "a", "in", "p"},
+            {"", "pull", "1"}, {"", "strive", "1"}, {"", "law", "1"}, {"", "legs", "1"}, {"", "rain", "1"}};
+        for (String[] words : told) {
+            for (int left = 2; left < words.length; left++) {
+                // Without the first name of a road the second one is taken for it, and miles is no name.
+                int place = words[1].equals("road") && left == 2 ? 4 : left + 1;
+                StringBuilder text = new StringBuilder(words[0]);
+                for (int k = 1; k < words.length; k++) {
+                    text.append(k == place ? "^" : "").append(k == left ? "" : words[k] + " ");
+                }
+                Edges.spoilt(text + (place == words.length ? "^;" : ";"), 1);
+                Edges.spoilt(words[0] + String.join(" ", Arrays.copyOfRange(words, 1, left)) + "^;", 1);
+            }
+            String whole = words[0] + String.join(" ", Arrays.copyOfRange(words, 1, words.length));
+            Edges.spoilt(whole + " ^law 1;", 1);
         }
     }
 
