@@ -97,6 +97,10 @@ public final class ImageEdgesTest {
         Checks.due("its last byte", x.octet(37) >= 0, true);
         Checks.due("behind it", x.octet(38), -1);
         Checks.due("on of it", Checks.on(x, Checks.image(x)), true);
+        OthersShoes shelf = Checks.in("place a;" + Edges.pairs(8));
+        Checks.due("the fullest shelf", shelf.image(), 20);
+        Checks.due("on of it", Checks.on(shelf, Checks.checked(0, 0, 0, 1, 1, 1, 1, 1, 1, 1, 1, 7, 6, 5, 4, 3, 2, 1, 0)), true);
+        Edges.shelf(shelf, 7, 6, 5, 4, 3, 2, 1, 0);
     }
 
     private static void octets() {
